@@ -10,6 +10,7 @@ public final class AssetsTest {
         publishMakesTheDraftAVersion();
         publishRefusesASeventhVersion();
         parentRefusesAFourthAndTooHighOnes();
+        tenAssetsHaveSixVersionsEach();
         publishRefusesARetractedParent();
         retractFellsAllThatStandsOnIt();
         approveAsksForTheParents();
@@ -135,6 +136,21 @@ public final class AssetsTest {
         CHECK.same("its content", 5, () -> m.version(1, 1, 0));
     }
 
+    private static void tenAssetsHaveSixVersionsEach() {
+        Marionette m = new Marionette();
+        for (int asset = 0; asset < 10; asset++) {
+            m.addAsset();
+            for (int version = 1; version <= 6; version++) {
+                int of = asset;
+                m.content(10 * asset + version);
+                CHECK.same("version", version, () -> m.publish(of));
+            }
+        }
+        CHECK.same("the last of all", 96, () -> m.version(9, 6, 0));
+        m.approve(9, 6);
+        CHECK.same("its approval falls", 1, () -> m.retract(9, 6));
+    }
+
     private static void parentRefusesAFourthAndTooHighOnes() {
         Marionette m = new Marionette();
         m.addAsset();
@@ -246,8 +262,17 @@ public final class AssetsTest {
         CHECK.same("approved", 1, () -> m.version(0, 3, 5));
         CHECK.same("falls with the second", 2, () -> m.retract(0, 2));
         CHECK.noState("retracted", () -> m.approve(0, 2));
+        CHECK.same("the first one falls", 1, () -> m.retract(0, 1));
+        m.publish(0);
+        m.publish(0);
+        m.parent(0, 4);
+        m.parent(0, 5);
+        m.publish(0);
+        m.approve(0, 5);
+        CHECK.noState("the first parent is not approved", () -> m.approve(0, 6));
+        m.approve(0, 4);
+        CHECK.no("both are", m.approve(0, 6));
         CHECK.noState("a retracted parent", () -> m.approve(0, 3));
-        CHECK.yes("the other parent still is", m.approve(0, 1));
     }
 
     private static void versionsAndVersionTestTheirArguments() {

@@ -15,6 +15,8 @@ public final class MachinesTest {
         theThirdFailureGivesUp();
         triesBeginAgainWithTheQueue();
         shotsWaitInOneQueue();
+        theQueueHasRoomForAllFrames();
+        aWaitingFrameIsTriedOnce();
         aFullDiskLetsMachinesWait();
         theImageBeforeMakesRoom();
         imagesTakeWhatTheirSizeSays();
@@ -285,6 +287,43 @@ public final class MachinesTest {
         CHECK.same("the last", 1, () -> m.tick(30));
     }
 
+    private static void theQueueHasRoomForAllFrames() {
+        Marionette m = new Marionette();
+        for (int shot = 0; shot < 5; shot++) {
+            int of = shot;
+            m.addShot(16);
+            CHECK.same("all of shot " + shot, 16, () -> m.render(of));
+        }
+        CHECK.same("all", 80, () -> m.count(0));
+        sameWhere("all", m, 4, 1, 1, 1, 1, 1, 1, 1, 1, 1, 1, 1, 1, 1, 1, 1, 1);
+        m.setDisk(999);
+        m.addMachine(3, 0);
+        for (int ticks = 1; ticks < 81; ticks += 20) {
+            m.tick(20);
+        }
+        CHECK.same("all but one", 1, () -> m.tick(1));
+        CHECK.same("disk", 999 - 80 * 12, () -> m.count(6));
+        CHECK.same("sixteen images", 16, () -> m.dropImages(4));
+    }
+
+    private static void aWaitingFrameIsTriedOnce() {
+        Marionette m = new Marionette();
+        m.addShot(2);
+        m.addMachine(1, 3);
+        m.setDisk(0);
+        m.render(0);
+        // By 7 the first three tries of the name 0 are 3, 6 and 2, of which only 2 fails; the first one of 1 is 1.
+        m.tick(4);
+        sameMachine("it waits", m, 0, 0, 0, 0);
+        m.tick(4);
+        sameMachine("it still waits", m, 0, 0, 0, 0);
+        CHECK.same("none failed", 0, () -> m.count(4));
+        m.setDisk(12);
+        CHECK.same("stored with its first try", 1, () -> m.tick(1));
+        CHECK.same("then", 0, () -> m.tick(1));
+        CHECK.same("the next one fails", 1, () -> m.count(4));
+    }
+
     private static void aFullDiskLetsMachinesWait() {
         Marionette m = withShot(3);
         m.addMachine(2, 0);
@@ -360,6 +399,12 @@ public final class MachinesTest {
         m.tick(1);
         sameMachine("the next one", m, 0, 0, 5, 2);
         CHECK.same("it ends", 1, () -> m.tick(9));
+        m.insert(0, 0, 3);
+        m.render(0);
+        m.cut(0, 2, 1);
+        m.cut(0, 1, 1);
+        CHECK.same("the last of the queue is cut", 2, () -> m.count(0));
+        CHECK.same("the rest ends", 2, () -> m.tick(9));
 
         Marionette waiting = withShot(2);
         waiting.addMachine(3, 0);
@@ -422,6 +467,15 @@ public final class MachinesTest {
         }
         m.setLook(0, 1, 1);
         CHECK.no("colour", m.isCurrent(0, 1));
+        m.render(0);
+        m.tick(30);
+        CHECK.yes("made by the colour 1", m.isCurrent(0, 1));
+        m.setLook(0, 2, 1);
+        CHECK.no("colour 2", m.isCurrent(0, 1));
+        m.setLook(0, 0, 1);
+        CHECK.no("colour 0", m.isCurrent(0, 1));
+        m.render(0);
+        m.tick(30);
         m.setLook(0, 0, 2);
         CHECK.no("size", m.isCurrent(0, 1));
         m.setLook(0, 0, 1);

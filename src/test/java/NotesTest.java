@@ -120,6 +120,8 @@ public final class NotesTest {
         CHECK.yes("open", m.close(3));
         m.insert(0, 2, 1);
         CHECK.same("a new frame is another one", -1, () -> m.placeOf(1));
+        m.cut(0, 1, 1);
+        CHECK.no("the first note closed by a cut", m.close(0));
         CHECK.same("numbers go on", 5, () -> m.note(0, 2, 0));
     }
 
@@ -177,6 +179,15 @@ public final class NotesTest {
     private static void deliverAsksForEveryFrame() {
         Marionette m = rendered(3);
         CHECK.same("all stored", 0, () -> m.deliver(0, 0));
+        m.key(0, 0, 0, 0, 1);
+        m.key(0, 0, 0, 1, 0);
+        m.approveShot(0);
+        CHECK.no("the first one", m.isCurrent(0, 0));
+        CHECK.yes("the second one", m.isCurrent(0, 1));
+        CHECK.same("only the first one not current", 3, () -> m.deliver(0, 0));
+        m.key(0, 0, 0, 0, 0);
+        m.approveShot(0);
+        CHECK.same("current again", 0, () -> m.deliver(0, 0));
         m.insert(0, 3, 1);
         m.approveShot(0);
         CHECK.same("the last one not stored", 3, () -> m.deliver(0, 0));

@@ -1,3 +1,7 @@
+import java.util.ArrayDeque;
+import java.util.Arrays;
+import java.util.Deque;
+
 /** Long runs of calls of all promises, each answer compared with that of PlainStudio. */
 public final class RandomRunsTest {
     private static final int RUNS = 1200;
@@ -8,7 +12,8 @@ public final class RandomRunsTest {
     private final PlainStudio plain = new PlainStudio();
     private final int run;
     private long seed;
-    private int reach;
+    private boolean early;
+    private final Deque<int[]> planned = new ArrayDeque<>();
 
     private RandomRunsTest(int run) {
         this.run = run;
@@ -48,12 +53,16 @@ public final class RandomRunsTest {
     private boolean isAsDue() {
         StringBuilder calls = new StringBuilder();
         for (int call = 0; call < CALLS; call++) {
-            reach = call < 40 ? 14 : 100;
-            int kind = pick();
-            int[] a = arguments(kind);
+            early = call < 40;
+            if (!early && planned.isEmpty() && run % 2 == 0 && next(40) == 0) {
+                planStory();
+            }
+            int[] plan = planned.poll();
+            int kind = plan == null ? pick() : plan[0];
+            int[] a = plan == null ? arguments(kind) : Arrays.copyOfRange(plan, 1, plan.length);
             String due = answer(kind, a, true);
             String got = answer(kind, a, false);
-            calls.append(kind + 2).append(java.util.Arrays.toString(a)).append(" -> ").append(due).append('\n');
+            calls.append(kind + 2).append(Arrays.toString(a)).append(" -> ").append(due).append('\n');
             if (!due.equals(got)) {
                 System.out.println(calls + "run " + run + ": the last call, of promise "
                     + (kind + 2) + ", answered " + got + ", due is " + due);
@@ -63,11 +72,54 @@ public final class RandomRunsTest {
         return true;
     }
 
+    private void plan(int... kindAndArguments) {
+        planned.add(kindAndArguments);
+    }
+
+    /** What single calls hardly ever bring about: a delivery that is kept, and a cache that is full. */
+    private void planStory() {
+        int shot = next(2);
+        plan(17, 300 + next(600));
+        if (next(2) == 0) {
+            planDelivery(shot);
+        } else {
+            for (int i = 0; i < 16; i++) {
+                plan(9, shot, i % 4, next(4), 0, next(400));
+                plan(18, shot);
+                plan(20, 15);
+                plan(36, 1 + i % 3);
+            }
+        }
+    }
+
+    private void planDelivery(int shot) {
+        for (int slot = 0; slot < 4; slot++) {
+            plan(8, shot, slot, next(2) == 0 ? -1 : next(2), 1 + next(2));
+        }
+        for (int asset = 0; asset < 3; asset++) {
+            plan(6, asset, 1);
+            plan(6, asset, 2);
+        }
+        for (int note = 0; note < next(12); note++) {
+            plan(22, note);
+        }
+        plan(11, shot, next(3), 1 + next(4));
+        plan(15, shot);
+        plan(18, shot);
+        plan(20, 30);
+        plan(18, shot);
+        plan(20, 30);
+        for (int i = 0; i < 6; i++) {
+            plan(24, shot, i % 3);
+            plan(38, next(4), next(6));
+        }
+    }
+
     /** Early calls build; later ones are of all kinds, those that make long stories more often. */
     private int pick() {
-        if (reach == 14) {
-            int[] early = {0, 1, 2, 2, 3, 4, 4, 6, 6, 7, 8, 8, 9, 16};
-            return early[next(early.length)];
+        if (early) {
+            int[] first = {0, 1, 2, 2, 3, 4, 4, 6, 6, 7, 8, 8, 9, 16};
+            return first[next(first.length)];
         }
         int[] often = {8, 9, 9, 9, 15, 18, 18, 18, 20, 20, 20, 20, 6, 6, 24, 24, 24, 12, 13, 31, 32, 33, 34, 35, 36, 36, 36, 37, 38};
         if (next(3) > 0) {

@@ -354,6 +354,15 @@ public final class ShotsTest {
         CHECK.same("the last one", 1, () -> m.cut(0, 1, 1));
         sameRow("the last one", m, 3);
         CHECK.same("its key", 40, () -> m.channel(0, 0, 0, 0));
+
+        Marionette full = withShot(16);
+        for (int i = 0; i < 16; i++) {
+            full.key(0, i / 4, i % 4, 15, 1);
+        }
+        sameChannel("ahead of a key at the end", full, 3, 3, 1, 1);
+        CHECK.same("the last of sixteen", 15, () -> full.cut(0, 15, 1));
+        CHECK.same("the keys of all slots and channels", 0, () -> full.shot(0, 1));
+        CHECK.same("all but the first", 1, () -> full.cut(0, 1, 14));
     }
 
     private static void cutTestsItsArguments() {
@@ -468,6 +477,8 @@ public final class ShotsTest {
         m.publish(0);
         m.addShot(2);
         m.addShot(2);
+        m.pin(1, 0, 0, 1);
+        CHECK.noState("slot 0 not approved", () -> m.approveShot(1));
         CHECK.noIndex("shot 2", () -> m.approveShot(2));
         CHECK.noIndex("shot -1", () -> m.approveShot(-1));
         CHECK.noState("nothing pinned", () -> m.approveShot(0));
