@@ -13,11 +13,21 @@ final class Check {
     private static final String STATE = "IllegalStateException";
 
     private final String test;
+    private String part = "";
     private int checks;
     private int wrong;
 
     Check(String test) {
         this.test = test;
+    }
+
+    /** What follows is printed with this in front, until another part begins. */
+    void begin(String newPart) {
+        part = newPart.isEmpty() ? "" : newPart + ": ";
+    }
+
+    int many() {
+        return checks;
     }
 
     void same(String what, long due, Call call) {
@@ -50,7 +60,7 @@ final class Check {
         fails(what, STATE, act);
     }
 
-    private void fails(String what, String due, Act act) {
+    void fails(String what, String due, Act act) {
         String got = "nothing thrown";
         try {
             act.run();
@@ -65,7 +75,7 @@ final class Check {
         checks++;
         if (!due.equals(got)) {
             wrong++;
-            System.out.println(test + ": " + what + " answered " + got + ", due is " + due);
+            System.out.println(test + ": " + part + what + " answered " + got + ", due is " + due);
         }
     }
 
