@@ -60,12 +60,13 @@ final class RuleBounds extends Bounds {
         same("the 512th call of a studio that waits", 15, () -> ticks.count(0));
         Marionette cuts = new Marionette();
         cuts.addShot(1);
-        for (int call = 2; call <= 511; call += 2) {
+        for (int call = 2; call <= 509; call += 2) {
             cuts.insert(0, 1, 15);
             cuts.cut(0, 1, 15);
         }
-        same("the 512th call, an edit", 16, () -> cuts.insert(0, 1, 15));
-        same("names go on", 255 * 15 + 15, () -> cuts.frame(0, 15));
+        same("the 510th call, an edit", 16, () -> cuts.insert(0, 1, 15));
+        same("the 511th call: names go on", 254 * 15 + 15, () -> cuts.frame(0, 15));
+        same("the 512th call, an edit", 1, () -> cuts.cut(0, 1, 15));
     }
 
     /** Each of these is refused, one behind the other, on one object. */

@@ -12,7 +12,7 @@ final class Twins {
 
     private record Probe(String what, Ask ask) { }
 
-    /** Rows of calls; each row begins with new twins. */
+    /** Rows of calls; each row begins with new twins, and keeps them well below 512 calls, behind which all is free. */
     private static final List<List<Probe>> ROWS = rows();
 
     private Twins() {
@@ -51,17 +51,22 @@ final class Twins {
     }
 
     private static List<List<Probe>> rows() {
-        return List.of(versions(), shots(0), shots(1), shots(4), machines(), notes(),
-            draft(), ticks(), renders(), approvals(), edits(), more());
+        List<List<Probe>> rows = new ArrayList<>(List.of(versions(0, 4), versions(5, 9), machines(), notes(),
+            draft(), ticks(), renders(), approvals(), edits(), more()));
+        for (int shot = 0; shot < 5; shot++) {
+            rows.add(frames(shot));
+            rows.add(channels(shot));
+        }
+        return rows;
     }
 
     private static void add(List<Probe> row, String what, Ask ask) {
         row.add(new Probe(what, ask));
     }
 
-    private static List<Probe> versions() {
+    private static List<Probe> versions(int firstAsset, int lastAsset) {
         List<Probe> row = new ArrayList<>();
-        for (int asset = 0; asset < 10; asset++) {
+        for (int asset = firstAsset; asset <= lastAsset; asset++) {
             int a = asset;
             add(row, "versions " + a, m -> m.versions(a));
             for (int version = 1; version <= 6; version++) {
@@ -76,7 +81,7 @@ final class Twins {
         return row;
     }
 
-    private static List<Probe> shots(int s) {
+    private static List<Probe> frames(int s) {
         List<Probe> row = new ArrayList<>();
         for (int what = 0; what < 8; what++) {
             int w = what;
@@ -89,6 +94,14 @@ final class Twins {
             add(row, "stored " + s + " " + p, m -> m.stored(s, p));
             add(row, "isCurrent " + s + " " + p, m -> bit(m.isCurrent(s, p)));
             add(row, "where " + s + " " + p, m -> m.where(s, p));
+        }
+        return row;
+    }
+
+    private static List<Probe> channels(int s) {
+        List<Probe> row = new ArrayList<>();
+        for (int place = 0; place < 16; place++) {
+            int p = place;
             for (int line = 0; line < 16; line++) {
                 int slot = line / 4;
                 int c = line % 4;
@@ -148,7 +161,7 @@ final class Twins {
         }
         add(row, "parent", m -> m.parent(0, 1));
         add(row, "constrain", m -> m.constrain(0, 0, 1, 0));
-        row.addAll(versions());
+        row.addAll(versions(0, 4));
         return row;
     }
 
