@@ -97,6 +97,22 @@ final class EditBounds extends Bounds {
             row("have no keys, at", place -> m.channel(0, 0, 0, place), -50, -50, -50, -50, -50);
             same("none", 1, () -> m.shot(0, 1));
         });
+        says("with their keys.", () -> {
+            Marionette m = new Marionette();
+            m.addShot(2);
+            ShotTerms.keyAllLines(m);
+            m.key(0, 3, 3, 1, 8);
+            same("as many as a frame can have are gone", 1, () -> {
+                m.cut(0, 0, 1);
+                return m.shot(0, 1);
+            });
+            m.dropKey(0, 3, 3, 0);
+            m.insert(0, 1, 1);
+            row("none of them, by the line,", line -> m.channel(0, line / 4, line % 4, 1),
+                0, 0, 0, 0, 0, 0, 0, 0, 0, 0, 0, 0, 0, 0, 0, 0);
+            row("each can be set anew, less 1,", line -> m.key(0, line / 4, line % 4, 1, 0) - 1,
+                0, 1, 2, 3, 4, 5, 6, 7, 8, 9, 10, 11, 12, 13, 14, 15);
+        });
         says("- `place`: the first one", () -> {
             bounds(INDEX, BUSY, 0, 4, (m, place) -> m.cut(0, place, 1));
             Marionette first = Stories.busy();

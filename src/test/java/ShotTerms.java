@@ -118,6 +118,13 @@ final class ShotTerms extends Bounds {
         });
     }
 
+    /** A key in each channel of each slot at the first place of shot 0, of the numbers 1 to 16. */
+    static void keyAllLines(Marionette m) {
+        for (int line = 0; line < 16; line++) {
+            m.key(0, line / 4, line % 4, 0, line + 1);
+        }
+    }
+
     /** A shot of two frames that has 20 keys. */
     static Marionette twentyKeys() {
         Marionette m = withShot(2, 0);
@@ -304,6 +311,24 @@ final class ShotTerms extends Bounds {
                     m.dropKey(0, slot, channel, 1);
                 }
                 yes("as made in " + slot + " " + channel, m.isCurrent(0, 1));
+            }
+        });
+        says("of all slots that pin,", () -> {
+            Marionette m = withShot(1, 4);
+            for (int slot = 1; slot < 4; slot++) {
+                m.pin(0, slot, 0, 1);
+            }
+            keyAllLines(m);
+            m.addMachine(3, 0);
+            m.render(0);
+            m.tick(9);
+            yes("with a number in each of all channels", m.isCurrent(0, 0));
+            same("not rendered again", 0, () -> m.render(0));
+            for (int line = 0; line < 16; line++) {
+                m.key(0, line / 4, line % 4, 0, 0);
+                no("0 in the line " + line, m.isCurrent(0, 0));
+                m.key(0, line / 4, line % 4, 0, line + 1);
+                yes("as made in the line " + line, m.isCurrent(0, 0));
             }
         });
         says("and by the same colour and size, as its frame has now.", () -> {
