@@ -154,6 +154,11 @@ final class MachineBounds extends Bounds {
             same("the disk has more", 15, () -> m.count(6));
             same("the other shot has its own", m.image(0, 0), () -> m.stored(0, 0));
             row("the queue and the machines are as before, at", place -> m.where(0, place), 0, 1, 10, 11, 1);
+            Marionette last = Stories.busy();
+            last.move(0, 0, 1, 4);
+            same("one behind others without any", 1, () -> last.dropImages(0));
+            same("it is gone", -1, () -> last.stored(0, 4));
+            same("the disk has 12 more", 19, () -> last.count(6));
         });
         says("Returns how many.", () -> {
             Marionette m = Stories.busy();

@@ -74,6 +74,11 @@ final class NoteBounds extends Bounds {
             yes("not that of the next frame", m.close(3));
             yes("not that of the other shot", m.close(0));
             same("its place", -1, () -> m.placeOf(2));
+            Marionette other = Stories.busy();
+            other.cut(1, 1, 1);
+            no("closed by the other cut", other.close(3));
+            yes("not that of the same name in the other shot", other.close(0));
+            same("its place stays", 1, () -> other.placeOf(0));
         });
     }
 

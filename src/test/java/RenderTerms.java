@@ -594,6 +594,15 @@ final class RenderTerms extends Bounds {
             same("the others are rendered", 12, () -> ends.tick(30));
             ends.insert(0, 12, 4);
             row("new frames are nowhere", n -> ends.where(0, 12 + n) + ends.stored(0, 12 + n), -1, -1, -1, -1);
+            Marionette names = plain(2, 1);
+            names.addShot(2);
+            names.render(0);
+            names.render(1);
+            names.tick(1);
+            names.cut(1, 0, 1);
+            where("those of the same names in the other shot stay", names, 10, 1);
+            same("two in the queue", 2, () -> names.count(0));
+            same("three are rendered", 3, () -> names.tick(30));
         });
     }
 
