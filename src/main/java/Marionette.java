@@ -679,12 +679,6 @@ public final class Marionette {
             }
             return !retracted;
         }
-
-        void changeRow(int[] row) {
-            for (int i = 0; i < constraintCount; i++) {
-                constraints[i].changeRow(row);
-            }
-        }
     }
 
     /** The keys and the image of a frame are its own, so that they go where it goes. */
@@ -994,7 +988,9 @@ public final class Marionette {
         private int newValueAt(Version version, int depth, boolean asking) {
             int[] changed = rows[depth + 1];
             copyRow(rows[depth], changed);
-            version.changeRow(changed);
+            for (int i = 0; i < version.constraintCount; i++) {
+                version.constraints[i].changeRow(changed);
+            }
             int sum = 31 * version.content;
             for (int channel = 0; channel < CHANNELS; channel++) {
                 sum += (channel + 1) * (changed[channel] + 10000);

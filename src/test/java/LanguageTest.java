@@ -7,24 +7,26 @@ import java.util.Set;
 import java.util.regex.Matcher;
 import java.util.regex.Pattern;
 
-/** Those rules of LANGUAGE.md that can be seen from single lines of the source. */
+/** The rules of LANGUAGE.md: those of single lines are looked for here, those of types and calls by SourceRules. */
 public final class LanguageTest {
     private static final Check CHECK = new Check("LanguageTest");
+    private static final Path SOURCE = Path.of("src/main/java/Marionette.java");
+    private static final Path DOCUMENT = Path.of("../shared/DOC.md");
     private static final List<String> FORBIDDEN = List.of(
         "\\bimport\\b", "\\bpackage\\b", "->", "::", "\\bfinally\\b", "\\bsynchronized\\b", "\\bassert\\b", "\\bcatch\\b",
         "\\w+Exact\\b", "\\bhashCode\\b", "\\bequals\\b", "\\btoString\\b", "\\bSystem\\b", "\\bRandom\\b", "\\bThread\\b",
         "\\bprotected\\b", "\\bfloat\\b", "\\bdouble\\b", "\" *\\+", "\\+ *\"", "static \\{", "[^\\x00-\\x7f]");
 
     public static void main(String[] args) throws IOException {
-        String source = Files.readString(Path.of("src/main/java/Marionette.java"));
-        String code = source.replaceAll("(?s)/\\*.*?\\*/", "").replaceAll("//[^\n]*", "");
+        String code = Files.readString(SOURCE).replaceAll("(?s)/\\*.*?\\*/", "").replaceAll("//[^\n]*", "");
         for (String each : FORBIDDEN) {
             Matcher found = Pattern.compile(each).matcher(code);
             CHECK.compare(each, "", found.find() ? found.group() : "");
         }
         nothingIsOpenButTheFace(code);
         noPrivateMethodHasANameOfTheFace(code);
-        methodsAreShort(source);
+        SourceRules.look(CHECK, SOURCE);
+        theFaceIsThatOfTheDocument(code);
         CHECK.end();
     }
 
@@ -57,16 +59,21 @@ public final class LanguageTest {
         return names;
     }
 
-    private static void methodsAreShort(String source) {
-        String[] lines = source.split("\n");
-        int begin = 0;
-        for (int i = 0; i < lines.length; i++) {
-            if (lines[i].matches(" {4}( {4})?\\S.*\\) ?(throws .*)?\\{")) {
-                begin = i;
-            }
-            if (lines[i].matches(" {4}( {4})?\\}") && i - begin > 60 && !lines[i].equals("    }")) {
-                CHECK.compare("method at line " + (begin + 1), "at most 60 lines", (i - begin) + " lines");
+    /** The head of each call stands in the class as in the document, its exceptions in the same order. */
+    private static void theFaceIsThatOfTheDocument(String code) throws IOException {
+        if (!Files.exists(DOCUMENT)) {
+            System.out.println("no " + DOCUMENT + ": whether the face is that of the document is not looked at");
+            return;
+        }
+        String plain = code.replaceAll("\\s+", " ");
+        int heads = 0;
+        for (String line : Files.readAllLines(DOCUMENT)) {
+            if (line.startsWith("    public ")) {
+                heads++;
+                String head = line.trim().replace(";", " {");
+                CHECK.yes("the class has: " + head, plain.contains(head));
             }
         }
+        CHECK.compare("heads of the face in the document", "40", Integer.toString(heads));
     }
 }
